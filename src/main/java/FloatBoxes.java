@@ -53,7 +53,7 @@ public final class FloatBoxes {
         if (refusal != FINE) {
             return refused(refusal);
         }
-        history.keep(now);
+        keepState();
         return now.addUnknown(low, high);
     }
 
@@ -61,7 +61,7 @@ public final class FloatBoxes {
         if (!now.hasUnknown(u) || !Places.isRange(low, high)) {
             return refused(BAD);
         }
-        history.keep(now);
+        keepState();
         now.low[u] = low;
         now.high[u] = high;
         return now.rulesOf(u);
@@ -72,7 +72,7 @@ public final class FloatBoxes {
         if (refusal != FINE) {
             return refused(refusal);
         }
-        history.keep(now);
+        keepState();
         return now.addRule(kind, x, y, z);
     }
 
@@ -80,12 +80,12 @@ public final class FloatBoxes {
         if (!now.hasRule(k)) {
             return refused(BAD);
         }
-        history.keep(now);
+        keepState();
         return now.dropRule(k);
     }
 
     public int cuts() {
-        history.keep(now);
+        keepState();
         return cutRanges(now);
     }
 
@@ -142,9 +142,9 @@ public final class FloatBoxes {
         if (n < 1 || n > MOST_BOXES || what < 0 || what > 2) {
             return refused(BAD);
         }
-        int verdict = solver.solve(now, n);
+        solver.solve(now, n);
         if (what == 0) {
-            return verdict;
+            return solver.verdict;
         }
         return what == 1 ? solver.taken : solver.left;
     }
@@ -153,10 +153,8 @@ public final class FloatBoxes {
         if (n < 1 || n > MOST_BOXES || !now.hasUnknown(u)) {
             return refused(BAD);
         }
-        if (solver.solve(now, n) != POINT_FOUND) {
-            return refused(NO);
-        }
-        return cutter.low[u];
+        solver.solve(now, n);
+        return solver.verdict == POINT_FOUND ? solver.point[u] : refused(NO);
     }
 
     // ---- numbers
@@ -230,7 +228,7 @@ public final class FloatBoxes {
                 return -1000 - i;
             }
         }
-        history.keep(now);
+        keepState();
         now.copy(trial);
         return text.orders;
     }
@@ -240,6 +238,7 @@ public final class FloatBoxes {
             return refused(NO);
         }
         history.giveBack(now);
+        solver.forget();
         return history.count;
     }
 
@@ -266,6 +265,12 @@ public final class FloatBoxes {
             h = 31 * h + now.z[k];
         }
         return 31 * h + (now.allRulesHold(now.low) ? 1 : 0);
+    }
+
+    /** Stands ahead of each change of ranges and rules but the way back. */
+    private void keepState() {
+        history.keep(now);
+        solver.forget();
     }
 
     /** Counts a refusal by BAD, NO or FULL, which stand next to one another. */
@@ -616,8 +621,11 @@ public final class FloatBoxes {
         /** Each box taken leaves two at most, so that the row never holds more than this. */
         private static final int ROW = MOST_BOXES + 1;
 
+        int verdict;
         int taken;
         int left;
+        final int[] point = new int[MOST_UNKNOWNS];
+        private int solvedBy;
         private final Cutter box;
         private final int[] lows = new int[ROW * MOST_UNKNOWNS];
         private final int[] highs = new int[ROW * MOST_UNKNOWNS];
@@ -626,27 +634,37 @@ public final class FloatBoxes {
             box = cutter;
         }
 
-        /** The verdict; the point, if there is one, is then in the cutter. */
-        int solve(Model model, int n) {
+        /** The ranges or the rules are other ones now. */
+        void forget() {
+            solvedBy = 0;
+        }
+
+        /** Solves by n boxes, unless that was done last: one solving is mostly asked about several times. */
+        void solve(Model model, int n) {
+            if (solvedBy == n) {
+                return;
+            }
+            solvedBy = n;
             taken = 0;
             left = 0;
             box.load(model.low, model.high, 0);
             put();
-            while (left > 0 && taken < n) {
+            boolean found = false;
+            while (left > 0 && taken < n && !found) {
                 taken++;
                 left--;
                 box.load(lows, highs, left * MOST_UNKNOWNS);
-                if (box.cutByRules(model, 0, model.rules, MOST_ROUNDS) == NONE) {
-                    continue;
-                }
-                int widest = widestOf(model.unknowns);
-                if (widest >= 0) {
-                    halve(widest);
-                } else if (model.allRulesHold(box.low)) {
-                    return POINT_FOUND;
+                if (box.cutByRules(model, 0, model.rules, MOST_ROUNDS) != NONE) {
+                    int widest = widestOf(model.unknowns);
+                    if (widest >= 0) {
+                        halve(widest);
+                    } else {
+                        found = model.allRulesHold(box.low);
+                    }
                 }
             }
-            return left == 0 ? NO_POINT : LEFT_OPEN;
+            verdict = found ? POINT_FOUND : left == 0 ? NO_POINT : LEFT_OPEN;
+            System.arraycopy(box.low, 0, point, 0, MOST_UNKNOWNS);
         }
 
         private void put() {
