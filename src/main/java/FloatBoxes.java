@@ -217,7 +217,7 @@ public final class FloatBoxes {
     }
 
     public int reads() {
-        if (!text.isParsed()) {
+        if (!text.parse()) {
             return -10 - text.at;
         }
         trial.copy(now);
@@ -714,12 +714,12 @@ public final class FloatBoxes {
         final int[] letter = new int[MOST_ORDERS];
         final int[] number = new int[MOST_ORDERS * NUMBERS];
 
-        /** Takes the orders from the text; if it has a fault, 'at' is then its place. */
-        boolean isParsed() {
+        /** Takes the orders from the text: whether it has no fault; if it has one, 'at' is its place. */
+        boolean parse() {
             at = 0;
             orders = 0;
             skipBlanks();
-            while (orders < MOST_ORDERS && isOrderRead()) {
+            while (orders < MOST_ORDERS && readOrder()) {
                 orders++;
                 skipBlanks();
                 if (at >= length) {
@@ -729,7 +729,8 @@ public final class FloatBoxes {
             return false;
         }
 
-        private boolean isOrderRead() {
+        /** Whether an order stands at 'at'; if not, 'at' comes to the byte that can not stand there. */
+        private boolean readOrder() {
             int sign = peek();
             int numbers = numbersOf(sign);
             if (numbers < 0) {
@@ -739,7 +740,7 @@ public final class FloatBoxes {
             letter[orders] = sign;
             for (int i = 0; i < numbers; i++) {
                 skipBlanks();
-                if (!isNumberRead(orders * NUMBERS + i, sign == 'u')) {
+                if (!readNumber(orders * NUMBERS + i, sign == 'u')) {
                     return false;
                 }
             }
@@ -762,7 +763,8 @@ public final class FloatBoxes {
             }
         }
 
-        private boolean isNumberRead(int slot, boolean signed) {
+        /** Likewise of a number; a tenth figure can not stand there. */
+        private boolean readNumber(int slot, boolean signed) {
             boolean minus = signed && peek() == '-';
             if (minus) {
                 at++;
@@ -872,12 +874,12 @@ public final class FloatBoxes {
 
         static long toDouble(int p) {
             int m = Places.magnitude(p);
-            long sign = p < 0 ? Long.MIN_VALUE : 0;
+            long sign = p < 0 ? 1L << 63 : 0;
             if (m == 0) {
                 return sign;
             }
             long amount = significand(m);
-            // the foremost bit goes to where a double hides it, and adds one to the exponent there
+            // the foremost bit comes to where a double hides it, so that adding it adds one to the exponent
             int shift = Long.numberOfLeadingZeros(amount) - (63 - DOUBLE_FRACTION_BITS);
             long exponent = exponent(m) - BIAS + DOUBLE_BIAS - shift;
             return sign + ((exponent - 1) << DOUBLE_FRACTION_BITS) + (amount << shift);
