@@ -3,7 +3,9 @@ import java.util.Random;
 /** Promises 1 to 13 and 19 to 24: runs of calls by chance against the reference. */
 public final class RunsTest {
     private static final int RUNS = 6000;
-    private static final int CALLS = 120;
+    private static final int STEPS = 120;
+    /** An object is promised for 512 calls; a step makes fewer than 30. */
+    private static final int MOST_CALLS = 480;
     private static final String[] ORDERS = {"c;", "x0;", "x1;", "u 0 0;", "u 1 1;", "u-3-3;", "u 16777216 16777218;",
         "u 2 1;", "k 0 0 1 2;", "k 1 0 1 2;", "k 2 1 0 2;", "k 3 0 1 0;", "k 4 0 1 0;", "k 5 0 1 0;", "k 5 0 1 1;", "q"};
 
@@ -13,6 +15,7 @@ public final class RunsTest {
     private final int[] bases = new int[3];
     private final String name;
     private final boolean isWide;
+    private int calls = 0;
 
     private RunsTest(int run) {
         random = new Random(run);
@@ -30,7 +33,7 @@ public final class RunsTest {
     public static void main(String[] args) {
         for (int run = 0; run < RUNS; run++) {
             RunsTest test = new RunsTest(run);
-            for (int call = 0; call < CALLS; call++) {
+            for (int step = 0; step < STEPS && test.calls < MOST_CALLS; step++) {
                 test.anyCall();
             }
         }
@@ -38,6 +41,7 @@ public final class RunsTest {
     }
 
     private void same(String call, long got, long want) {
+        calls++;
         Check.due(name + call, got, want);
     }
 
