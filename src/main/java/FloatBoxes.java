@@ -41,7 +41,7 @@ public final class FloatBoxes {
         trial = new Model();
         history = new History();
         cutter = new Cutter();
-        solver = new Solver(cutter);
+        solver = new Solver();
         text = new Text();
         refusals = new int[3];
     }
@@ -626,13 +626,9 @@ public final class FloatBoxes {
         int left;
         final int[] point = new int[MOST_UNKNOWNS];
         private int solvedBy;
-        private final Cutter box;
+        private final Cutter box = new Cutter();
         private final int[] lows = new int[ROW * MOST_UNKNOWNS];
         private final int[] highs = new int[ROW * MOST_UNKNOWNS];
-
-        Solver(Cutter cutter) {
-            box = cutter;
-        }
 
         /** The ranges or the rules are other ones now. */
         void forget() {

@@ -1,3 +1,4 @@
+import java.lang.reflect.Array;
 import java.lang.reflect.Constructor;
 import java.lang.reflect.Field;
 import java.lang.reflect.Method;
@@ -5,7 +6,9 @@ import java.lang.reflect.Modifier;
 import java.nio.file.Files;
 import java.nio.file.Path;
 import java.util.Arrays;
+import java.util.IdentityHashMap;
 import java.util.List;
+import java.util.Map;
 import java.util.Set;
 import java.util.TreeSet;
 import java.util.regex.Matcher;
@@ -28,6 +31,7 @@ public final class FaceTest {
         checkFace();
         checkClasses();
         checkSource(Files.readString(Path.of("src/main/java/FloatBoxes.java")));
+        checkRoom();
         Check.finish();
     }
 
@@ -104,6 +108,51 @@ public final class FaceTest {
             Check.isTrue("the source is without " + pattern, !m.find());
         }
         checkLengths(source.split("\n"));
+        checkNews(source.split("\n"));
+    }
+
+    /** All calls of a run share one room, so that objects and arrays are made in constructors and for fields alone. */
+    private static void checkNews(String[] lines) {
+        boolean inConstructor = false;
+        for (String line : lines) {
+            if (line.matches("( {4}| {8})(public )?[A-Z]\\w*\\(.*\\) \\{")) {
+                inConstructor = true;
+            } else if (line.matches(" {4}\\}| {8}\\}")) {
+                inConstructor = false;
+            }
+            boolean isField = line.matches(" {4,8}(private )?final \\S+ \\w+ = new .*;");
+            boolean makes = line.matches(".*\\b(new|clone|copyOf|copyOfRange)\\b[ (].*") && !line.contains("*");
+            Check.isTrue(line.trim() + " makes nothing anew each call", !makes || isField || inConstructor);
+        }
+    }
+
+    private static void checkRoom() throws Exception {
+        Map<Object, Boolean> seen = new IdentityHashMap<>();
+        long size = sizeOf(new FloatBoxes(), seen);
+        Check.isTrue(seen.size() + " objects and arrays of an object", seen.size() <= 100);
+        Check.isTrue(size + " fields and elements of an object", size <= 2000);
+    }
+
+    /** Fields and elements of an object and of all that it holds. */
+    private static long sizeOf(Object o, Map<Object, Boolean> seen) throws Exception {
+        if (o == null || seen.put(o, true) != null) {
+            return 0;
+        }
+        if (o.getClass().isArray()) {
+            long size = Array.getLength(o);
+            for (int i = 0; o instanceof Object[] && i < Array.getLength(o); i++) {
+                size += sizeOf(Array.get(o, i), seen);
+            }
+            return size;
+        }
+        long size = 0;
+        for (Field f : o.getClass().getDeclaredFields()) {
+            if (!Modifier.isStatic(f.getModifiers())) {
+                f.setAccessible(true);
+                size += 1 + (f.getType().isPrimitive() ? 0 : sizeOf(f.get(o), seen));
+            }
+        }
+        return size;
     }
 
     /** A method begins with a line that ends with ') {' and ends with a brace as far to the right. */
